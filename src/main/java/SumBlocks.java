@@ -384,23 +384,23 @@ public final class SumBlocks {
         }
 
         boolean has(int place) {
-            return isBelow(place, many);
+            return place >= 0 && place < many;
         }
 
         int addressAt(int place) {
-            return valueAt(addresses, place);
+            return place >= 0 && place < addresses.length ? addresses[place] : NONE;
         }
 
         int orderAt(int place) {
-            return valueAt(orders, place);
+            return place >= 0 && place < orders.length ? orders[place] : NONE;
         }
 
         int countAt(int place) {
-            return valueAt(counts, place);
+            return place >= 0 && place < counts.length ? counts[place] : NONE;
         }
 
         int ownerAt(int place) {
-            return valueAt(owners, place);
+            return place >= 0 && place < owners.length ? owners[place] : NONE;
         }
 
         boolean isFreeAt(int place) {
@@ -460,7 +460,7 @@ public final class SumBlocks {
             return addressAt(place) == address && orderAt(place) == order ? place : NONE;
         }
 
-        // The lowest address comes first in the row, so by both rules only a less order beats it.
+        // The row goes by addresses: the first block found stays, unless a less order counts more.
         int placeOfFree(int leastOrder, boolean lowestAddressFirst) {
             int best = NONE;
             for (int place = 0; place < many; place++) {
@@ -545,7 +545,10 @@ public final class SumBlocks {
         }
 
         private void move(int from, int to) {
-            put(to, addressAt(from), orderAt(from), countAt(from), ownerAt(from));
+            putAt(addresses, to, valueAt(addresses, from));
+            putAt(orders, to, valueAt(orders, from));
+            putAt(counts, to, valueAt(counts, from));
+            putAt(owners, to, valueAt(owners, from));
         }
     }
 
