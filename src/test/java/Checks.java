@@ -6,26 +6,56 @@ final class Checks {
 
     private static int checked = 0;
     private static int wrong = 0;
+    // The sentence of the document that is tested now, and how many answers were checked for it.
+    private static int promise = 0;
+    private static String sentence = "";
+    private static int checkedForSentence = 1;
 
     private Checks() {
     }
 
+    /** What follows is the test of this sentence, which the promise says (0: What it is, Terms). */
+    static void says(int newPromise, String newSentence) {
+        endSentence();
+        promise = newPromise;
+        sentence = newSentence;
+        checkedForSentence = 0;
+    }
+
+    private static void endSentence() {
+        if (checkedForSentence == 0) {
+            tell(promise, sentence, "nothing", "a check at least");
+        }
+    }
+
+    static void due(String call, long got, long due) {
+        due(promise, call, got, due);
+    }
+
+    static void due(String call, String got, String due) {
+        due(promise, call, got, due);
+    }
+
+    static void dueShare(String call, double got, double due) {
+        dueShare(promise, call, got, due);
+    }
+
     static void due(int promise, String call, long got, long due) {
-        checked++;
+        count();
         if (got != due) {
             tell(promise, call, Long.toString(got), Long.toString(due));
         }
     }
 
     static void due(int promise, String call, String got, String due) {
-        checked++;
+        count();
         if (!got.equals(due)) {
             tell(promise, call, got, due);
         }
     }
 
     static void dueShare(int promise, String call, double got, double due) {
-        checked++;
+        count();
         if (Double.doubleToLongBits(got) != Double.doubleToLongBits(due)) {
             tell(promise, call, Double.toString(got), Double.toString(due));
         }
@@ -33,7 +63,7 @@ final class Checks {
 
     /** The call throws this very class, and leaves the object as it was. */
     static void dueThrow(int promise, String call, SumBlocks x, Class<?> due, Call made) {
-        checked++;
+        count();
         long before = x.digest();
         String got = outcome(made);
         if (!got.equals(due.getSimpleName())) {
@@ -75,12 +105,21 @@ final class Checks {
         }
     }
 
+    private static void count() {
+        checked++;
+        checkedForSentence++;
+    }
+
     static void tell(int promise, String call, String got, String due) {
         wrong++;
         System.out.println("promise " + promise + ": " + call + " answered " + got + ", due is " + due);
+        if (!sentence.isEmpty()) {
+            System.out.println("    as it says: " + sentence);
+        }
     }
 
     static void end() {
+        endSentence();
         System.out.println(checked + " answers checked, " + wrong + " are not as due");
         if (wrong != 0) {
             System.exit(1);
