@@ -117,6 +117,42 @@ public final class EdgesOfBlocksTest {
         }
     }
 
+    /** The greatest uses are cut until there are 24, and then each is made as small as it can be. */
+    private static void mostBlocks() {
+        Checks.says(0, "The blocks of the memory, by ascending addresses, follow one upon the other, and"
+                + " cover all of it.");
+        SumBlocks x = begun(14);
+        TreeModel same = new TreeModel();
+        same.begin(14);
+        Checks.due("want(987)", x.want(987), same.want(987));
+        int[] orders = new int[24];
+        orders[0] = 14;
+        for (int use = 1; use < 24; use++) {
+            int greatest = 0;
+            for (int other = 1; other < use; other++) {
+                greatest = orders[other] > orders[greatest] ? other : greatest;
+            }
+            orders[use] = orders[greatest] - 2;
+            orders[greatest] = orders[greatest] - 1;
+            Checks.due("shrink", x.shrink(greatest, SIZES[orders[greatest]]),
+                    same.shrink(greatest, SIZES[orders[greatest]]));
+            Checks.due("want", x.want(SIZES[orders[use]]), same.want(SIZES[orders[use]]));
+        }
+        Checks.due("count(3), no block is free", x.count(3), 0);
+        for (int use = 0; use < 24; use++) {
+            Checks.due("shrink(" + use + ", 1)", x.shrink(use, 1), same.shrink(use, 1));
+        }
+        Checks.due("count(2), the most that there can be", x.count(2), 175);
+        Checks.due("digest() with the most blocks", x.digest(), same.digest());
+        Checks.due("at(986)", x.at(986), 174);
+        Checks.due("block(174, 0)", x.block(174, 0), same.block(174, 0));
+        Checks.dueThrow(0, "block(175, 0)", x, INDEX, () -> x.block(175, 0));
+        Checks.due("giveAll()", x.giveAll(), same.giveAll());
+        Checks.due("digest() behind giveAll()", x.digest(), same.digest());
+        Checks.due("undo()", x.undo(), same.undo());
+        Checks.due("digest() with the most blocks again", x.digest(), same.digest());
+    }
+
     private static void cuts() {
         Checks.says(0, "To cut a block of the order k, 2 or more, makes a left one of the order k - 1, at its"
                 + " address, with its count plus 1, and a right one of the order k - 2, behind that, with the"
@@ -267,6 +303,7 @@ public final class EdgesOfBlocksTest {
         cells();
         firstBlock();
         blocksCoverAll();
+        mostBlocks();
         cuts();
         ordersThatAreNotCut();
         sideOfThePartner();

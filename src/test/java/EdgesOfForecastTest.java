@@ -232,6 +232,9 @@ public final class EdgesOfForecastTest {
         higher.want(5);
         Checks.due("blocks", Checks.blocks(higher), "0/3/1/1 5/2/0/0");
         Checks.due("blocker(), not the lowest number", higher.blocker(), 1);
+        higher.shrink(1, 3);
+        Checks.due("blocks", Checks.blocks(higher), "0/2/2/1 3/1/0/- 5/2/0/0");
+        Checks.due("blocker(), by what is joined", higher.blocker(), 1);
         SumBlocks none = begun(5);
         none.want(1);
         none.want(1);
@@ -395,6 +398,12 @@ public final class EdgesOfForecastTest {
         for (int index = 0; index < buffers.length; index++) {
             SumBlocks x = Twins.made(Twins.STATES.get(index));
             Checks.due("digest() in the state " + index, x.digest(), hashOf(listed(x, buffers[index])));
+        }
+        for (int cells : new int[] {1, 2, 4, 6, 7, 611, 986, 987}) {
+            SumBlocks x = begun(14);
+            x.set(1, 1);
+            x.want(cells);
+            Checks.due("digest() with the wasteShare() of " + cells, x.digest(), hashOf(listed(x, "")));
         }
         Checks.says(27, "Returns the hash.");
         SumBlocks most = Twins.made(Twins::allUses);

@@ -192,7 +192,7 @@ public final class EdgesOfTextsTest {
 
     private static void clearBuffer() {
         Checks.says(10, "Clears the buffer.");
-        SumBlocks x = typed("w1;g0");
+        SumBlocks x = typed("w45;g0");
         x.clearBuffer();
         Checks.due("firstError()", x.firstError(), 0);
         Checks.due("append('w')", x.append('w'), 1);
