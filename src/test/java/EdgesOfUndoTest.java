@@ -119,7 +119,7 @@ public final class EdgesOfUndoTest {
             String[] before = new String[calls];
             SumBlocks x = new SumBlocks();
             for (int call = 0; call < calls; call++) {
-                before[call] = Twins.seen(x);
+                before[call] = Checks.blocks(x);
                 x.begin(3 + call % 12);
                 Checks.due("count(12) behind " + (call + 1), x.count(12), Math.min(call + 1, 6));
             }
@@ -127,7 +127,7 @@ public final class EdgesOfUndoTest {
             for (int back = 1; back <= Math.min(calls, 6); back++) {
                 left--;
                 Checks.due("undo() " + back + " of " + calls, x.undo(), left);
-                Checks.due("what is restored", Twins.seen(x), before[calls - back]);
+                Checks.due("what is restored", Checks.blocks(x), before[calls - back]);
             }
             Checks.due("undo() too often", Checks.outcome(x::undo), "IllegalStateException");
         }

@@ -189,30 +189,34 @@ public final class ForecastTest {
     }
 
     private static void digest() {
+        SumBlocks empty = new SumBlocks();
+        Checks.due(27, "digest()", empty.digest(), listed(empty, ""));
         SumBlocks x = new SumBlocks();
-        Checks.due(27, "digest()", x.digest(), listed(x, ""));
         x.want(4);
         x.want(10);
         Checks.due(27, "digest()", x.digest(), listed(x, ""));
-        Checks.type(x, "w1;g~!");
-        Checks.due(27, "digest()", x.digest(), listed(x, "w1;g~!"));
-        x.set(1, 1);
-        x.shrink(1, 3);
-        x.give(0);
-        Checks.due(27, "digest()", x.digest(), listed(x, "w1;g~!"));
-        Checks.dueUnchanged(27, "digest()", x, x::digest);
+        SumBlocks typed = new SumBlocks();
+        typed.want(4);
+        typed.want(10);
+        Checks.type(typed, "w1;g~!");
+        typed.set(1, 1);
+        typed.shrink(1, 3);
+        typed.give(0);
+        Checks.due(27, "digest()", typed.digest(), listed(typed, "w1;g~!"));
+        Checks.dueUnchanged(27, "digest()", typed, typed::digest);
     }
 
     /** One use of each waste that there can be: the bits of the share are made without the library. */
     private static void digestOfShares() {
         int[] sizes = {1, 2, 3, 5, 8, 13, 21, 34, 55, 89, 144, 233, 377, 610, 987};
-        SumBlocks x = new SumBlocks();
         for (int cells = 1; cells <= 987; cells++) {
+            SumBlocks x = new SumBlocks();
             x.begin(14);
             x.want(cells);
             Checks.due(27, "digest() of a use of " + cells, x.digest(), listed(x, ""));
         }
         for (int order = 3; order <= 14; order++) {
+            SumBlocks x = new SumBlocks();
             x.begin(order);
             x.want(sizes[order]);
             x.shrink(0, 1);
