@@ -13,6 +13,8 @@ import java.util.regex.Pattern;
 
 /** The face of the class as the document gives it, and what LANGUAGE.md rules out of its text. */
 public final class FormTest {
+    private static final Path SOURCE = Path.of("src/main/java/SumBlocks.java");
+    private static final Path DOCUMENT = Path.of("../shared/DOC.md");
     private static final String[] FACE = {
         "int begin(int) IllegalArgumentException",
         "int want(int) IllegalArgumentException IllegalStateException",
@@ -102,8 +104,53 @@ public final class FormTest {
         }
     }
 
+    /** The lines of the document's face stand in the program in their order, names and all. */
+    private static void documentFace() throws IOException {
+        if (!Files.exists(DOCUMENT)) {
+            System.out.println("there is no " + DOCUMENT + " to compare with");
+            return;
+        }
+        String document = Files.readString(DOCUMENT);
+        String source = Files.readString(SOURCE);
+        int start = document.indexOf("```java\n");
+        int end = document.indexOf("\n```", start + 1);
+        Checks.due(0, "the document has a face", start >= 0 && end > start ? 1 : 0, 1);
+        String[] lines = document.substring(start + 8, end).split("\n");
+        Checks.due(0, "how many lines the face has", lines.length, FACE.length + 4);
+        int at = 0;
+        for (String line : lines) {
+            boolean isCall = line.contains("(") && line.endsWith(";");
+            String due = isCall ? line.substring(0, line.length() - 1) + " {" : line;
+            int found = source.indexOf(due + "\n", at);
+            Checks.due(0, "where the program has: " + line, found < 0 ? "nowhere behind the line before" : "", "");
+            at = Math.max(at, found);
+        }
+    }
+
+    /** "Ahead of the calls .. the interface says: ..": the program has the same heads. */
+    private static void documentHeads() throws IOException {
+        if (!Files.exists(DOCUMENT)) {
+            return;
+        }
+        String source = Files.readString(SOURCE);
+        Matcher head = Pattern.compile("(?m)^Ahead of the calls (.*) the interface says: (----.*)\\.$")
+                .matcher(Files.readString(DOCUMENT));
+        int heads = 0;
+        while (head.find()) {
+            heads++;
+            int at = source.indexOf("// " + head.group(2) + "\n");
+            Checks.due(0, "the program says " + head.group(2), at >= 0 ? 1 : 0, 1);
+            int next = source.indexOf("// ----", Math.max(at, 0) + 1);
+            for (String call : head.group(1).split(", ")) {
+                int found = source.indexOf(" " + call.replace("`", "") + "(", Math.max(at, 0));
+                Checks.due(0, call + " stands there", found >= 0 && (next < 0 || found < next) ? 1 : 0, 1);
+            }
+        }
+        Checks.due(0, "how many heads there are", heads, 4);
+    }
+
     private static void text() throws IOException {
-        String source = Files.readString(Path.of("src/main/java/SumBlocks.java"));
+        String source = Files.readString(SOURCE);
         String code = source.replaceAll("(?s)/\\*.*?\\*/", "").replaceAll("//[^\n]*", "")
                 .replaceAll("\"[^\"\n]*\"", "\"\"");
         for (String ruledOut : RULED_OUT) {
@@ -125,6 +172,8 @@ public final class FormTest {
 
     public static void main(String[] args) throws IOException {
         face();
+        documentFace();
+        documentHeads();
         privateNames();
         text();
         Checks.end();
